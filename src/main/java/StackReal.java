@@ -81,9 +81,10 @@ public final class StackReal {
         }
         result = new Real();
         turned = new Real();
-        rounding = new Rounding();
-        arithmetic = new Arithmetic(rounding);
-        forms = new Forms(rounding);
+        Rounding shared = new Rounding();
+        rounding = shared;
+        arithmetic = new Arithmetic(shared);
+        forms = new Forms(shared);
         memory = new Memory();
         depth = 0;
         mask = ALL_EXCEPTIONS;
@@ -522,7 +523,8 @@ public final class StackReal {
             long sum = high + upper;
             low = lower;
             if (isBelow(sum, high)) {
-                low = (sum << 63) | (lower >>> 1) | (lower & 1);
+                // With a carry less than 64 bits have gone down, so that lower ends in a 0.
+                low = (sum << 63) | (lower >>> 1);
                 sum = (sum >>> 1) | TOP_BIT;
                 exponent++;
             }

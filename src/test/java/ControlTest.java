@@ -31,11 +31,11 @@ public final class ControlTest {
         String call = "control(" + precision + ", " + rounding + ", " + mask + ")";
         Bench b = new Bench(checks).control(24, 2, 29);
         checks.illegal(call, () -> b.s.control(precision, rounding, mask));
+        checks.due("time() after " + call, b.s.time(), 0);
         b.whole(1).whole(3).gives("1 / 3 after " + call, Bench.DIV, Bench.INEXACT);
         b.top("1 / 3 after " + call, 1, -2, 0xAAAAAB0000000000L);
         b.whole(0);
         checks.arithmetic("1 / 0 after " + call, () -> b.s.operate(Bench.DIV, 0));
-        checks.due("time() after " + call, b.s.time(), 32);
     }
 
     private static void precisions() {
