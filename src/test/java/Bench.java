@@ -92,6 +92,26 @@ final class Bench {
         return this;
     }
 
+    /** For every real that a double holds without a loss. */
+    Bench is(String what, int i, double due) {
+        long bits = Double.doubleToRawLongBits(due);
+        int sign = bits < 0 ? 4 : 0;
+        if (Double.isNaN(due)) {
+            return at(what, i, 3, 0, 0);
+        }
+        if (Double.isInfinite(due)) {
+            return at(what, i, 2 + sign, 0, 0);
+        }
+        if (due == 0) {
+            return at(what, i, sign, 0, 0);
+        }
+        return at(what, i, 1 + sign, Math.getExponent(due), TOP | bits << 11);
+    }
+
+    Bench is(String what, double due) {
+        return is(what, 0, due);
+    }
+
     Bench depth(String what, int depth) {
         checks.due(what + ": depth()", s.depth(), depth);
         return this;

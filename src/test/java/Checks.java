@@ -1,13 +1,35 @@
 /** Counts the answers that are not due, prints them, and ends the test with exit code 1 if there were any. */
 final class Checks {
+    /** Of one sentence, or of a test without sentences. */
     private static final int MOST_PRINTED = 50;
 
     private final String test;
+    private String place = "";
     private int looked;
     private int wrong;
+    private int printed;
 
     Checks(String test) {
         this.test = test;
+    }
+
+    /**
+     * The test of one sentence: what it prints names the promise, or the paragraph of the terms,
+     * and the sentence's words. A sentence that looks at nothing, or stops halfway, is wrong too.
+     */
+    void sentence(String paragraph, String words, Runnable body) {
+        int before = looked;
+        place = paragraph + " \"" + words + "\": ";
+        printed = 0;
+        try {
+            body.run();
+        } catch (RuntimeException e) {
+            fail("stopped by " + e);
+        }
+        if (looked == before) {
+            fail("no answer was looked at");
+        }
+        place = "";
     }
 
     void due(String what, long got, long want) {
@@ -42,8 +64,9 @@ final class Checks {
 
     void fail(String text) {
         wrong++;
-        if (wrong <= MOST_PRINTED) {
-            System.out.println(test + ": " + text);
+        printed++;
+        if (printed <= MOST_PRINTED) {
+            System.out.println(test + ": " + place + text);
         }
     }
 
