@@ -167,6 +167,8 @@ public final class BoundsOperationsTest {
         bench().finite(false, 63, (1L << 32) * -2).control(64, 2, 31).gives("one less", Bench.SQRT, Bench.INEXACT)
                 .is("one less, up to 64 bits", (1L << 32) - 1);
         bench().whole((1L << 62) + (1L << 32) + 1).gives("(2^31 + 1)^2", Bench.SQRT, 0).is("2^31 + 1", (1L << 31) + 1);
+        // Nothing of an earlier number is left.
+        bench().whole(-1).whole(3).gives("-1 / 3", Bench.DIV, Bench.INEXACT).whole(4).gives("root of 4", Bench.SQRT, 0).is("not negative", 2);
         for (long bits : Wide.SIGNIFICANDS) {
             for (int exponent = -3; exponent <= 2; exponent++) {
                 root(exponent, bits);
