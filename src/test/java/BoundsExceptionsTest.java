@@ -37,24 +37,17 @@ public final class BoundsExceptionsTest {
         sets("UNDERFLOW", bench().finite(false, -16382, TOP).whole(2), UNDER);
         sets("INEXACT", bench().whole(1).whole(3), 16);
         sets("none", bench().whole(6).whole(3), 0);
+        for (int mask = 0; mask < 32; mask++) {
+            StackReal s = new StackReal();
+            s.control(64, 0, mask);
+            throwsOrNot("DROP of nothing, mask " + mask, s, Bench.DROP, (mask & Bench.INVALID) == 0);
+            checks.due("flags(), masked or not, mask " + mask, s.flags(), Bench.INVALID);
+        }
     }
 
-    /** Masked or not, and also where the flag was set before. */
     private static void sets(String what, Bench b, int due) {
-        StackReal s = b.s;
-        checks.due(what + ": DIV", s.operate(Bench.DIV, 0), due);
-        checks.due(what + ": flags()", s.flags(), due);
-        for (int mask = 0; mask < 32; mask++) {
-            StackReal any = new StackReal();
-            any.control(64, 0, mask);
-            boolean isThrown = (mask & 1) == 0;
-            if (isThrown) {
-                checks.arithmetic("DROP of nothing, mask " + mask, () -> any.operate(Bench.DROP, 0));
-            } else {
-                checks.fine("DROP of nothing, mask " + mask, () -> any.operate(Bench.DROP, 0));
-            }
-            checks.due("flags(), mask " + mask, any.flags(), 1);
-        }
+        checks.due(what + ": DIV", b.s.operate(Bench.DIV, 0), due);
+        checks.due(what + ": flags()", b.s.flags(), due);
     }
 
     /** Of two exceptions either one that is not masked makes it throw; flags set before do not. */
