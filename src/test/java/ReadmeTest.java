@@ -8,7 +8,7 @@ import java.util.List;
 import java.util.regex.Matcher;
 import java.util.regex.Pattern;
 
-/** What README.md says under Use holds; the test is started in the project's directory, as .ci/run does. */
+/** The examples, names of calls, ticks and images in README.md hold; the test is started in the project's directory, as .ci/run does. */
 public final class ReadmeTest {
     private static final Checks checks = new Checks("ReadmeTest");
     private static final Path README = Path.of("README.md");
